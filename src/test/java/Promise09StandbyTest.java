@@ -1,0 +1,144 @@
+public final class Promise09StandbyTest {
+    public static void main(String[] args) {
+        Check check = new Check();
+        refusals(check);
+        theOneBefore(check);
+        lastCommitThatIsSafe(check);
+        asItStandsWhenNamed(check);
+        noneAcknowledgesAll(check);
+        otherReplicasDoNotCount(check);
+        lost(check);
+        safeOnceStaysSafe(check);
+        check.end();
+    }
+
+    private static void refusals(Check check) {
+        ShippedLog log = Check.pair();
+        log.promote(3);
+        check.noNode("standby(4, 1)", () -> log.standby(4, 1));
+        check.noNode("standby(-1, -1)", () -> log.standby(-1, -1));
+        check.noNode("standby(0, 4)", () -> log.standby(0, 4));
+        check.noNode("standby(0, -2)", () -> log.standby(0, -2));
+        check.noNode("of no primary, but no such standby", () -> log.standby(1, 4));
+        check.badState("standby of a replica", () -> log.standby(1, 1));
+        check.badState("none of an idle node", () -> log.standby(2, ShippedLog.NONE));
+        check.badArgument("an idle node", () -> log.standby(0, 2));
+        check.badArgument("itself", () -> log.standby(0, 0));
+        check.badArgument("another's replica", () -> log.standby(3, 1));
+        check.due("refusals change nothing", log.node(0, 7), ShippedLog.NONE);
+    }
+
+    private static void theOneBefore(Check check) {
+        ShippedLog log = Check.pair();
+        log.follow(2, 0);
+        check.due("none before", log.standby(0, 1), ShippedLog.NONE);
+        check.due("node(0, 7)", log.node(0, 7), 1);
+        check.due("the first one before", log.standby(0, 2), 1);
+        check.due("the same again", log.standby(0, 2), 2);
+        check.due("none after", log.standby(0, ShippedLog.NONE), 2);
+        check.due("node(0, 7)", log.node(0, 7), ShippedLog.NONE);
+        check.due("none again", log.standby(0, ShippedLog.NONE), ShippedLog.NONE);
+    }
+
+    /** Commits end at 32, 64, 96 and 128; the standby tells 64 first, then 80 bytes' worth of none. */
+    private static void lastCommitThatIsSafe(Check check) {
+        ShippedLog log = Check.pair();
+        log.standby(0, 1);
+        log.commit(0);
+        for (int i = 0; i < 3; i++) {
+            log.put(0, i, i);
+            log.commit(0);
+        }
+        log.put(0, 1, 1);
+        log.send(0, 1);
+        log.deliver(0, 1);
+        check.due("known", log.deliver(1, 0), 64);
+        check.due("acknowledged to where it told", log.node(0, 6), 64);
+        log.send(0, 1);
+        log.deliver(0, 1);
+        check.due("known", log.deliver(1, 0), 128);
+        check.due("acknowledged", log.node(0, 6), 128);
+        log.send(0, 1);
+        log.deliver(0, 1);
+        check.due("known", log.deliver(1, 0), 144);
+        check.due("a put is no commit", log.node(0, 6), 128);
+    }
+
+    private static void asItStandsWhenNamed(Check check) {
+        ShippedLog log = Check.pair();
+        log.follow(2, 0);
+        log.standby(0, 2);
+        log.commit(0);
+        log.put(0, 1, 1);
+        Check.ship(log, 0, 1);
+        log.commit(0);
+        check.due("acknowledged", log.node(0, 6), 0);
+        log.standby(0, 1);
+        check.due("as it stands", log.node(0, 6), 32);
+        log.standby(0, 2);
+        check.due("it stays", log.node(0, 6), 32);
+    }
+
+    private static void noneAcknowledgesAll(Check check) {
+        ShippedLog log = Check.pair();
+        log.standby(0, 1);
+        log.commit(0);
+        log.commit(0);
+        log.put(0, 1, 1);
+        check.due("acknowledged", log.node(0, 6), 0);
+        log.standby(0, ShippedLog.NONE);
+        check.due("all commits are", log.node(0, 6), 48);
+        check.due("and later ones", log.commit(0), true);
+    }
+
+    private static void otherReplicasDoNotCount(Check check) {
+        ShippedLog log = Check.pair();
+        log.follow(2, 0);
+        log.standby(0, 1);
+        log.commit(0);
+        Check.ship(log, 0, 2);
+        check.due("another replica has it", log.node(0, 6), 0);
+        Check.ship(log, 0, 1);
+        check.due("the standby has it", log.node(0, 6), 32);
+    }
+
+    private static void lost(Check check) {
+        for (int way = 0; way < 5; way++) {
+            ShippedLog log = Check.pair();
+            log.commit(0);
+            log.promote(3);
+            log.standby(0, 1);
+            check.due("with a standby", log.commit(0), false);
+            if (way == 0) {
+                log.crash(1, 0);
+            } else if (way == 1) {
+                log.promote(1);
+            } else if (way == 2) {
+                log.follow(1, 3);
+            } else if (way == 3) {
+                log.follow(1, 0);
+            } else {
+                log.rewind(1, 0);
+            }
+            check.due("none any more, way " + way, log.node(0, 7), ShippedLog.NONE);
+            check.due("what is acknowledged stays, way " + way, log.node(0, 6), 32);
+            check.due("later commits at once, way " + way, log.commit(0), true);
+            check.due("acknowledged then, way " + way, log.node(0, 6), 64);
+        }
+    }
+
+    private static void safeOnceStaysSafe(Check check) {
+        ShippedLog log = Check.pair();
+        log.standby(0, 1);
+        log.send(0, 1);
+        log.deliver(0, 1);
+        log.commit(0);
+        log.send(0, 1);
+        log.deliver(0, 1);
+        log.follow(1, 0);
+        log.standby(0, 1);
+        int safe = log.node(0, 6);
+        log.deliver(1, 0);
+        check.due("an older position is told", log.node(0, 6), safe);
+    }
+}
