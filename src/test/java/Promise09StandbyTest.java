@@ -9,6 +9,7 @@ public final class Promise09StandbyTest {
         otherReplicasDoNotCount(check);
         lost(check);
         safeOnceStaysSafe(check);
+        whatWasLeftStaysLeft(check);
         check.end();
     }
 
@@ -40,7 +41,7 @@ public final class Promise09StandbyTest {
         check.due("none again", log.standby(0, ShippedLog.NONE), ShippedLog.NONE);
     }
 
-    /** Commits end at 32, 64, 96 and 128; the standby tells 64 first, then 80 bytes' worth of none. */
+    /** Commits end at 32, 64, 96 and 128; the standby tells 64, 128 and 144. */
     private static void lastCommitThatIsSafe(Check check) {
         ShippedLog log = Check.pair();
         log.standby(0, 1);
@@ -127,18 +128,34 @@ public final class Promise09StandbyTest {
         }
     }
 
+    /** Two answers are still on their way when the replica follows anew and is named once more. */
     private static void safeOnceStaysSafe(Check check) {
         ShippedLog log = Check.pair();
+        for (int i = 0; i < 2; i++) {
+            log.commit(0);
+            log.send(0, 1);
+            log.deliver(0, 1);
+            log.follow(1, 0);
+        }
         log.standby(0, 1);
-        log.send(0, 1);
-        log.deliver(0, 1);
+        check.due("acknowledged", log.node(0, 6), 48);
+        check.due("an older position is told", log.deliver(1, 0), 32);
+        check.due("known", log.link(0, 1, 0), 32);
+        check.due("acknowledged stays", log.node(0, 6), 48);
+        log.standby(0, 1);
+        check.due("acknowledged stays when it is named", log.node(0, 6), 48);
+    }
+
+    /** A commit that its standby left unsafe is not acknowledged by what another replica tells. */
+    private static void whatWasLeftStaysLeft(Check check) {
+        ShippedLog log = Check.pair();
+        log.follow(2, 0);
+        log.standby(0, 1);
         log.commit(0);
-        log.send(0, 1);
-        log.deliver(0, 1);
-        log.follow(1, 0);
-        log.standby(0, 1);
-        int safe = log.node(0, 6);
-        log.deliver(1, 0);
-        check.due("an older position is told", log.node(0, 6), safe);
+        log.crash(1, 0);
+        Check.ship(log, 0, 2);
+        check.due("without a standby", log.node(0, 6), 0);
+        log.standby(0, 2);
+        check.due("named now", log.node(0, 6), 32);
     }
 }

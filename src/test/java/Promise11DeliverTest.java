@@ -6,6 +6,7 @@ public final class Promise11DeliverTest {
         otherPositions(check);
         positionsInOrder(check);
         answerFindsSixteen(check);
+        manyMessages(check);
         overWhatWasTorn(check);
         check.end();
     }
@@ -106,6 +107,20 @@ public final class Promise11DeliverTest {
         check.due("answers", log.link(1, 0, 1), 16);
         for (int i = 0; i < 16; i++) {
             check.due("a position told", log.deliver(1, 0), 16);
+        }
+    }
+
+    /** More messages go each way than there is room for at once. */
+    private static void manyMessages(Check check) {
+        ShippedLog log = Check.pair();
+        for (int known = 0; known < 20 * 32; known += 32) {
+            check.due("a message of one record", log.send(0, 1), 1);
+            log.put(0, 1, known);
+            check.due("a message of two", log.send(0, 1), 2);
+            check.due("the first one is lost", log.drop(0, 1), 1);
+            check.due("the second one is delivered", log.deliver(0, 1), known + 32);
+            check.due("the position told", log.deliver(1, 0), known + 32);
+            log.put(0, 1, known);
         }
     }
 
