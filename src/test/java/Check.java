@@ -95,10 +95,121 @@ final class Check {
         }
     }
 
-    /** The primary's log becomes full: 256 records. */
+    /** The primary's log becomes full: 256 records. An object has 512 calls, so these are few. */
     static void fill(ShippedLog log, int primary) {
-        while (log.node(primary, 1) < 4096) {
-            log.put(primary, 0, 1);
+        int records = (4096 - log.node(primary, 1)) / 16;
+        for (int i = 0; i < records; i++) {
+            log.put(primary, i % 16, i + 1);
         }
+    }
+
+    /** All nodes are up, and node 0 is primary with a full log. */
+    static ShippedLog fullPrimary() {
+        ShippedLog log = primary();
+        fill(log, 0);
+        return log;
+    }
+
+    /** Node 0 is down, and its disk is full. */
+    static ShippedLog fullDown() {
+        ShippedLog log = fullPrimary();
+        log.crash(0, 4096);
+        return log;
+    }
+
+    /** Node 0 is idle with a full log. */
+    static ShippedLog fullIdle() {
+        ShippedLog log = fullDown();
+        log.up(0);
+        return log;
+    }
+
+    /** Node 0 is primary with a full log, node 1 has all of it: 64 messages each way, 454 calls. */
+    static ShippedLog fullPair() {
+        ShippedLog log = pair();
+        fill(log, 0);
+        for (int i = 0; i < 64; i++) {
+            log.send(0, 1);
+            log.deliver(0, 1);
+            log.deliver(1, 0);
+        }
+        return log;
+    }
+
+    /** 16 messages of a record each are on their way from node 0 to node 1. */
+    static ShippedLog sixteenSent() {
+        ShippedLog log = pair();
+        for (int i = 0; i < 16; i++) {
+            log.send(0, 1);
+        }
+        return log;
+    }
+
+    /** 16 answers are on their way from node 1 to node 0, and nothing the other way. */
+    static ShippedLog sixteenAnswers() {
+        ShippedLog log = pair();
+        for (int i = 0; i < 16; i++) {
+            log.send(0, 1);
+            log.deliver(0, 1);
+        }
+        return log;
+    }
+
+    /** 16 answers and one message, whose answer finds no room. */
+    static ShippedLog noRoomForAnswer() {
+        ShippedLog log = sixteenAnswers();
+        log.put(0, 1, 1);
+        log.send(0, 1);
+        return log;
+    }
+
+    /** 16 messages are on their way, and node 1 has told that it has all. */
+    static ShippedLog sixteenSentOfNothingNew() {
+        ShippedLog log = sixteenSent();
+        log.deliver(0, 1);
+        log.send(0, 1);
+        log.deliver(1, 0);
+        return log;
+    }
+
+    /** Node 0 is primary, node 1 its replica, node 2 idle, node 3 down. */
+    static ShippedLog everyRole() {
+        ShippedLog log = pair();
+        log.crash(3, 0);
+        return log;
+    }
+
+    /** Nodes 0 and 2 are primaries on timelines 1 and 2, node 1 follows 0, node 3 follows 2. */
+    static ShippedLog twoPairs() {
+        ShippedLog log = pair();
+        log.promote(2);
+        log.follow(3, 2);
+        return log;
+    }
+
+    /** Node 1 is idle with a record of timeline 1 that the primaries 0 (32 bytes) and 2 (16) don't have. */
+    static ShippedLog apart() {
+        ShippedLog log = pair();
+        log.put(0, 1, 1);
+        ship(log, 0, 1);
+        log.crash(0, 0);
+        log.up(0);
+        log.promote(0);
+        log.promote(2);
+        return log;
+    }
+
+    /** Timelines 1 to 255 are used, nodes 0 (timeline 1) and 1 (timeline 255) are primaries: 510 calls. */
+    static ShippedLog allTimelines() {
+        ShippedLog log = new ShippedLog();
+        log.up(0);
+        log.up(1);
+        log.promote(0);
+        log.promote(1);
+        for (int timeline = 3; timeline <= 255; timeline++) {
+            log.rewind(1, 0);
+            log.promote(1);
+        }
+        return log;
     }
 }

@@ -25,6 +25,7 @@ public final class Promise01NewObjectTest {
             }
         }
         objectsAreApart(check);
+        everyByteIsZero(check);
         check.end();
     }
 
@@ -37,5 +38,17 @@ public final class Promise01NewObjectTest {
         second.up(0);
         check.due("end in another object", second.node(0, 1), 0);
         check.due("the first timeline of another object", second.promote(0), 1);
+    }
+
+    /** 512 bytes of each log at a time: an object has 512 calls. */
+    private static void everyByteIsZero(Check check) {
+        for (int part = 0; part < 64; part++) {
+            ShippedLog log = new ShippedLog();
+            int node = part / 16;
+            int where = part / 8 % 2;
+            for (int i = part % 8 * 512; i < part % 8 * 512 + 512; i++) {
+                check.due("byteAt(" + node + ", " + i + ", " + where + ")", log.byteAt(node, i, where), 0);
+            }
+        }
     }
 }

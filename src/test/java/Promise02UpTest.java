@@ -8,6 +8,10 @@ public final class Promise02UpTest {
         memoryIsTheDisk(check);
         acrossTimelines(check);
         fullLog(check);
+        lastPlace(check);
+        emptyLog(check);
+        timelinesAreLeftOut(check);
+        highTimelines(check);
         check.end();
     }
 
@@ -106,5 +110,66 @@ public final class Promise02UpTest {
         check.due("all comes to the disk", log.crash(0, 4096), 4080);
         check.due("up with a full log", log.up(0), 4096);
         check.due("synced", log.node(0, 2), 4096);
+    }
+
+    /** The record at 4080 is good when it is whole with the 4096 bytes, and only then. */
+    private static void lastPlace(Check check) {
+        int[] bytes = {4063, 4064, 4065, 4079, 4080};
+        int[] ends = {4064, 4080, 4080, 4080, 4096};
+        for (int i = 0; i < bytes.length; i++) {
+            ShippedLog log = Check.fullPrimary();
+            check.due("crash(0, " + bytes[i] + ")", log.crash(0, bytes[i]), bytes[i]);
+            check.due("up after it", log.up(0), ends[i]);
+            check.due("its end", log.node(0, 1), ends[i]);
+        }
+    }
+
+    private static void emptyLog(Check check) {
+        ShippedLog log = new ShippedLog();
+        int[] facts = {1, 0, 0, 0, 0, ShippedLog.NONE, 0, ShippedLog.NONE, 0};
+        check.due("up the first time", log.up(3), 0);
+        for (int what = 0; what < 9; what++) {
+            check.due("node(3, " + what + ")", log.node(3, what), facts[what]);
+        }
+        log.crash(3, 0);
+        check.due("up again", log.up(3), 0);
+    }
+
+    /** A record of kind 3 may be of any timeline above, not only of the next one. */
+    private static void timelinesAreLeftOut(Check check) {
+        ShippedLog log = Check.primary();
+        log.promote(1);
+        log.promote(2);
+        log.crash(0, 0);
+        log.up(0);
+        check.due("timeline after 1", log.promote(0), 4);
+        log.put(0, 1, 9);
+        log.commit(0);
+        log.crash(0, 0);
+        check.due("up with timelines 1 and 4", log.up(0), 64);
+        check.due("its timeline", log.node(0, 4), 4);
+        check.due("its value", log.get(0, 1), 9);
+    }
+
+    /** A log begins with a timeline above 1, and timelines from 128 on are no numbers below 0. */
+    private static void highTimelines(Check check) {
+        int[] timelines = {2, 127, 128, 129, 200};
+        for (int last : timelines) {
+            ShippedLog log = Check.primary();
+            log.promote(1);
+            for (int timeline = 3; timeline <= last; timeline++) {
+                log.rewind(1, 0);
+                log.promote(1);
+            }
+            log.put(1, 2, last);
+            log.commit(1);
+            check.due("timeline", log.node(1, 4), last);
+            check.due("the put's timeline", log.byteAt(1, log.node(1, 1) - 31, 0), last);
+            int end = log.node(1, 1);
+            log.crash(1, 0);
+            check.due("up on timeline " + last, log.up(1), end);
+            check.due("its timeline", log.node(1, 4), last);
+            check.due("its value", log.get(1, 2), last);
+        }
     }
 }

@@ -7,6 +7,9 @@ public final class Promise03CrashTest {
         downNodeTellsNothing(check);
         replicasBecomeIdle(check);
         replicaCrashes(check);
+        allOthersBecomeIdle(check);
+        fullLog(check);
+        onlyOnce(check);
         check.end();
     }
 
@@ -98,5 +101,41 @@ public final class Promise03CrashTest {
         check.due("the primary stays one", log.node(0, 0), 2);
         check.badState("what it knows of it", () -> log.link(0, 1, 0));
         check.due("its disk", log.up(1), 16);
+    }
+
+    /** Every other node is a replica of the primary, the first and the last one too. */
+    private static void allOthersBecomeIdle(Check check) {
+        for (int primary = 0; primary < 4; primary++) {
+            ShippedLog log = Check.allUp();
+            log.promote(primary);
+            for (int i = 1; i < 4; i++) {
+                log.follow((primary + i) % 4, primary);
+                log.send(primary, (primary + i) % 4);
+            }
+            log.crash(primary, 0);
+            for (int i = 1; i < 4; i++) {
+                int node = (primary + i) % 4;
+                check.due("role of node " + node + " without " + primary, log.node(node, 0), 1);
+                check.due("it follows", log.node(node, 5), ShippedLog.NONE);
+                check.due("messages to it", log.link(primary, node, 1), 0);
+            }
+        }
+    }
+
+    private static void fullLog(Check check) {
+        ShippedLog log = Check.fullPrimary();
+        check.due("more than there are", log.crash(0, 4081), 4080);
+        check.due("the last byte", log.byteAt(0, 4095, 1), log.byteAt(0, 4095, 0));
+        check.due("the last position", log.byteAt(0, 4090, 1) * 256 + log.byteAt(0, 4091, 1), 4080);
+    }
+
+    private static void onlyOnce(Check check) {
+        ShippedLog log = Check.primary();
+        log.put(0, 1, -1);
+        check.due("the first crash", log.crash(0, 5), 5);
+        check.badState("a crash of what is down", () -> log.crash(0, 5));
+        check.due("the disk goes on as it is", log.byteAt(0, 21, 1), 0);
+        log.up(0);
+        check.due("what is torn is not in the log", log.crash(0, 99), 0);
     }
 }

@@ -10,6 +10,8 @@ public final class Promise04PromoteTest {
         acknowledgedBeginsAgain(check);
         fullLog(check);
         allTimelinesUsed(check);
+        lastPlace(check);
+        timelinesAreUsedOnce(check);
         check.end();
     }
 
@@ -115,10 +117,7 @@ public final class Promise04PromoteTest {
     }
 
     private static void fullLog(Check check) {
-        ShippedLog log = Check.primary();
-        Check.fill(log, 0);
-        log.crash(0, 5000);
-        log.up(0);
+        ShippedLog log = Check.fullIdle();
         check.unsupported("promote with a full log", () -> log.promote(0));
         check.due("it stays idle", log.node(0, 0), 1);
         check.due("its end stays", log.node(0, 1), 4096);
@@ -138,5 +137,44 @@ public final class Promise04PromoteTest {
         }
         log.rewind(1, 0);
         check.unsupported("promote after 255 timelines", () -> log.promote(1));
+
+        ShippedLog primary = Check.allTimelines();
+        check.due("the last timeline in the log", primary.node(1, 4), 255);
+        check.badState("primary comes before 255 timelines", () -> primary.promote(0));
+
+        ShippedLog down = Check.allTimelines();
+        down.crash(1, 0);
+        check.badState("down comes before 255 timelines", () -> down.promote(1));
+
+        ShippedLog upAgain = Check.allTimelines();
+        upAgain.crash(1, 0);
+        check.due("timeline 255 is good", upAgain.up(1), 16);
+    }
+
+    /** The record of kind 3 may be the last one that the log has room for. */
+    private static void lastPlace(Check check) {
+        ShippedLog log = Check.primary();
+        for (int i = 0; i < 254; i++) {
+            log.put(0, 1, i);
+        }
+        log.crash(0, 4096);
+        check.due("255 records", log.up(0), 4080);
+        check.due("room for one more", log.promote(0), 2);
+        check.due("end", log.node(0, 1), 4096);
+        check.due("synced", log.node(0, 2), 4096);
+        check.due("its kind", log.byteAt(0, 4080, 1), 3);
+        check.unsupported("put then", () -> log.put(0, 1, 1));
+        check.unsupported("commit then", () -> log.commit(0));
+    }
+
+    /** A timeline stays used when its record is taken back or was never shipped. */
+    private static void timelinesAreUsedOnce(Check check) {
+        ShippedLog log = Check.primary();
+        check.due("the second", log.promote(1), 2);
+        check.due("taken back", log.rewind(1, 0), 16);
+        check.due("the third", log.promote(1), 3);
+        check.due("taken back", log.rewind(0, 1), 16);
+        check.due("the fourth", log.promote(0), 4);
+        check.due("its log has this one alone", log.node(0, 1), 16);
     }
 }

@@ -6,6 +6,9 @@ public final class Promise05FollowTest {
         beginnings(check);
         changesItsPrimary(check);
         followsAnew(check);
+        emptyLogs(check);
+        lastRecord(check);
+        fullLogs(check);
         check.end();
     }
 
@@ -87,5 +90,36 @@ public final class Promise05FollowTest {
         check.due("no standby any more", log.node(0, 7), ShippedLog.NONE);
         check.due("neither its role nor what it follows changed: messages to it", log.link(0, 1, 1), 1);
         check.due("messages from it", log.link(1, 0, 1), 1);
+    }
+
+    private static void emptyLogs(Check check) {
+        ShippedLog log = Check.fullPrimary();
+        log.follow(1, 0);
+        check.due("an empty log is a beginning of a full one", log.link(0, 1, 0), 0);
+        check.due("its role", log.node(1, 0), 3);
+    }
+
+    /** Node 1 has all that the primary has, and a record more; then the primary's log grows. */
+    private static void lastRecord(Check check) {
+        ShippedLog log = Check.pair();
+        log.put(0, 1, 1);
+        Check.ship(log, 0, 1);
+        log.promote(1);
+        log.crash(1, 0);
+        check.due("32 bytes are the primary's", log.up(1), 48);
+        check.badArgument("one record more", () -> Check.following(log, 1, 0));
+        log.put(0, 1, 1);
+        check.badArgument("another last record", () -> Check.following(log, 1, 0));
+        log.put(0, 1, 2);
+        check.badArgument("another record in the middle", () -> Check.following(log, 1, 0));
+        check.due("it stays idle", log.node(1, 0), 1);
+    }
+
+    private static void fullLogs(Check check) {
+        ShippedLog log = Check.fullPair();
+        log.crash(1, 0);
+        check.due("up", log.up(1), 4096);
+        log.follow(1, 0);
+        check.due("a full log is a beginning of the same", log.link(0, 1, 0), 4096);
     }
 }

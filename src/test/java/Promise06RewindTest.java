@@ -9,6 +9,11 @@ public final class Promise06RewindTest {
         byRecords(check);
         primaryBecomesReplica(check);
         rewindsAnew(check);
+        fullLog(check);
+        fullLogStays(check);
+        tornBytes(check);
+        longerThanTheOther(check);
+        appliesWhatItKeeps(check);
         check.end();
     }
 
@@ -134,5 +139,76 @@ public final class Promise06RewindTest {
         check.due("another primary", log.node(1, 5), 3);
         check.due("messages of the one before", log.link(1, 0, 1), 0);
         check.due("messages of the new one", log.link(3, 1, 1), 1);
+    }
+
+    private static void fullLog(Check check) {
+        ShippedLog log = Check.fullPrimary();
+        log.promote(1);
+        check.due("all 4096 bytes are gone", log.rewind(0, 1), 4096);
+        for (int i = 0; i < 4096; i += i < 4080 ? 102 : 1) {
+            check.due("byte " + i + " in memory", log.byteAt(0, i, 0), 0);
+            check.due("byte " + i + " on the disk", log.byteAt(0, i, 1), 0);
+        }
+        check.due("end", log.node(0, 1), 0);
+        check.due("synced", log.node(0, 2), 0);
+        check.due("applied", log.node(0, 3), 0);
+        check.due("state", log.get(0, 1), 0);
+    }
+
+    private static void fullLogStays(Check check) {
+        ShippedLog log = Check.fullPair();
+        check.due("a full log that is the same", log.rewind(1, 0), 0);
+        check.due("end", log.node(1, 1), 4096);
+        check.due("applied", log.node(1, 3), 4096);
+        check.due("the last byte", log.byteAt(1, 4095, 1), log.byteAt(0, 4095, 0));
+    }
+
+    /** Bytes of a record that is not whole are behind the end: they are 0 then, and none of the gone. */
+    private static void tornBytes(Check check) {
+        ShippedLog log = Check.pair();
+        Check.ship(log, 0, 1);
+        log.put(0, 1, -1);
+        log.crash(0, 15);
+        log.up(0);
+        log.promote(1);
+        check.due("a torn byte in memory", log.byteAt(0, 16, 0), 1);
+        check.due("nothing of the log is gone", log.rewind(0, 1), 0);
+        for (int i = 16; i < 32; i++) {
+            check.due("byte " + i + " in memory", log.byteAt(0, i, 0), 0);
+            check.due("byte " + i + " on the disk", log.byteAt(0, i, 1), 0);
+        }
+        check.due("what it kept", log.byteAt(0, 0, 1), 3);
+    }
+
+    /** The other's log may be the shorter one, a beginning of this one. */
+    private static void longerThanTheOther(Check check) {
+        ShippedLog log = Check.pair();
+        Check.ship(log, 0, 1);
+        log.promote(1);
+        for (int i = 0; i < 5; i++) {
+            log.put(0, 1, i);
+        }
+        check.due("all behind the first record", log.rewind(0, 1), 80);
+        check.due("end", log.node(0, 1), 16);
+        check.due("what the primary knows", log.link(1, 0, 0), 16);
+    }
+
+    /** Of 4 kept records 1 was applied, and an uncommitted put is forgotten as its record is. */
+    private static void appliesWhatItKeeps(Check check) {
+        ShippedLog log = Check.pair();
+        log.put(0, 1, 10);
+        log.commit(0);
+        log.put(0, 2, 20);
+        Check.ship(log, 0, 1);
+        log.apply(1, 1);
+        log.promote(2);
+        log.rewind(1, 0);
+        check.due("applied", log.node(1, 3), 64);
+        check.due("its value", log.get(1, 1), 10);
+        check.due("put and not committed", log.node(1, 8), 1);
+        log.rewind(1, 2);
+        check.due("applied nothing", log.node(1, 3), 0);
+        check.due("its value", log.get(1, 1), 0);
+        check.due("nothing put", log.node(1, 8), 0);
     }
 }

@@ -6,6 +6,8 @@ public final class Promise07PutTest {
         inMemoryAlone(check);
         values(check);
         fullLog(check);
+        firstAndLastKey(check);
+        lastPlace(check);
         check.end();
     }
 
@@ -70,5 +72,26 @@ public final class Promise07PutTest {
         check.badArgument("no such key comes before a full log", () -> log.put(0, 16, 0));
         check.due("end after it", log.node(0, 1), 4096);
         check.due("the last position's bytes", log.byteAt(0, 4090, 0) * 256 + log.byteAt(0, 4091, 0), 4080);
+    }
+
+    private static void firstAndLastKey(Check check) {
+        ShippedLog log = Check.primary();
+        check.due("key 0", log.put(0, 0, Integer.MIN_VALUE), 16);
+        check.due("key 15", log.put(0, 15, Integer.MAX_VALUE), 32);
+        log.commit(0);
+        check.due("the least value", log.get(0, 0), Integer.MIN_VALUE);
+        check.due("the greatest value", log.get(0, 15), Integer.MAX_VALUE);
+    }
+
+    private static void lastPlace(Check check) {
+        ShippedLog log = Check.primary();
+        for (int i = 0; i < 254; i++) {
+            log.put(0, 1, i);
+        }
+        check.due("room for one more", log.put(0, 9, -2), 4080);
+        check.due("its key", log.byteAt(0, 4083, 0), 9);
+        check.due("its value's last byte", log.byteAt(0, 4087, 0), 254);
+        check.due("applied", log.node(0, 3), 4096);
+        check.due("put and not committed", log.node(0, 8), 255);
     }
 }

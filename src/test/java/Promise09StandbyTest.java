@@ -10,6 +10,11 @@ public final class Promise09StandbyTest {
         lost(check);
         safeOnceStaysSafe(check);
         whatWasLeftStaysLeft(check);
+        notBefore(check);
+        oneRecordBefore(check);
+        onlyItsOwn(check);
+        lostAndNoneAndNamedAgain(check);
+        noCommits(check);
         check.end();
     }
 
@@ -157,5 +162,76 @@ public final class Promise09StandbyTest {
         check.due("without a standby", log.node(0, 6), 0);
         log.standby(0, 2);
         check.due("named now", log.node(0, 6), 32);
+    }
+
+    /** The commit ends at 96: a position of 80 is before it, one of 96 is not. */
+    private static void notBefore(Check check) {
+        ShippedLog log = Check.pair();
+        log.standby(0, 1);
+        for (int i = 0; i < 4; i++) {
+            log.put(0, 1, i);
+        }
+        check.due("commit", log.commit(0), false);
+        log.send(0, 1);
+        log.deliver(0, 1);
+        log.deliver(1, 0);
+        log.send(0, 1);
+        log.deliver(0, 1);
+        check.due("64 is known", log.link(0, 1, 0), 64);
+        log.standby(0, 1);
+        check.due("a position before it", log.node(0, 6), 0);
+        check.due("96 is told", log.deliver(1, 0), 96);
+        check.due("a position just behind it", log.node(0, 6), 96);
+    }
+
+    /** Records come one by one: 16 bytes before the commit's end, then at it. */
+    private static void oneRecordBefore(Check check) {
+        ShippedLog log = Check.pair();
+        log.standby(0, 1);
+        log.put(0, 1, 1);
+        Check.ship(log, 0, 1);
+        log.commit(0);
+        check.due("32 is known, the commit ends at 48", log.node(0, 6), 0);
+        log.standby(0, 1);
+        check.due("named again", log.node(0, 6), 0);
+        Check.ship(log, 0, 1);
+        check.due("48 is known", log.node(0, 6), 48);
+    }
+
+    /** Two primaries: one loses its standby, the other one keeps its own. */
+    private static void onlyItsOwn(Check check) {
+        ShippedLog log = Check.twoPairs();
+        log.standby(0, 1);
+        log.standby(2, 3);
+        log.crash(3, 0);
+        check.due("lost", log.node(2, 7), ShippedLog.NONE);
+        check.due("the other one's", log.node(0, 7), 1);
+        check.due("at once", log.commit(2), true);
+        check.due("not at once", log.commit(0), false);
+    }
+
+    /** A lost standby leaves what is acknowledged; naming NONE acknowledges all; a later one goes on. */
+    private static void lostAndNoneAndNamedAgain(Check check) {
+        ShippedLog log = Check.pair();
+        log.standby(0, 1);
+        log.commit(0);
+        log.follow(1, 0);
+        check.due("lost", log.node(0, 6), 0);
+        check.due("none before", log.standby(0, ShippedLog.NONE), ShippedLog.NONE);
+        check.due("all commits", log.node(0, 6), 32);
+        check.due("named again", log.standby(0, 1), ShippedLog.NONE);
+        check.due("it stays", log.node(0, 6), 32);
+        check.due("a later commit waits", log.commit(0), false);
+        check.due("and is not acknowledged", log.node(0, 6), 32);
+    }
+
+    private static void noCommits(Check check) {
+        ShippedLog log = Check.pair();
+        log.put(0, 1, 1);
+        Check.ship(log, 0, 1);
+        log.standby(0, 1);
+        check.due("a put is no commit", log.node(0, 6), 0);
+        log.standby(0, ShippedLog.NONE);
+        check.due("no commits at all", log.node(0, 6), 0);
     }
 }

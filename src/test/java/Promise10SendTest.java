@@ -7,6 +7,8 @@ public final class Promise10SendTest {
         notSyncedToo(check);
         sixteenMessages(check);
         asItWasWhenSent(check);
+        edgesOfFour(check);
+        fullLog(check);
         check.end();
     }
 
@@ -81,5 +83,35 @@ public final class Promise10SendTest {
             check.due("byte " + i, log.byteAt(1, i, 0), log.byteAt(0, i, 0));
         }
         check.due("the next record was not", log.byteAt(1, 16, 0), 0);
+    }
+
+    /** What is known plus four records, three, one: never more than there are. */
+    private static void edgesOfFour(Check check) {
+        for (int records = 1; records <= 9; records++) {
+            ShippedLog log = Check.pair();
+            for (int i = 1; i < records; i++) {
+                log.put(0, 1, i);
+            }
+            int left = records;
+            while (left > 0) {
+                int due = Math.min(left, 4);
+                check.due("send with " + left + " left", log.send(0, 1), due);
+                left -= due;
+                check.due("end", log.deliver(0, 1), 16 * (records - left));
+                log.deliver(1, 0);
+            }
+            check.nothingThere("nothing left", () -> log.send(0, 1));
+        }
+    }
+
+    private static void fullLog(Check check) {
+        ShippedLog log = Check.fullPair();
+        check.due("all was sent", log.link(0, 1, 0), 4096);
+        check.due("the replica's end", log.node(1, 1), 4096);
+        check.due("synced", log.node(1, 2), 4096);
+        check.nothingThere("nothing behind a full log", () -> log.send(0, 1));
+        for (int i = 4080; i < 4096; i++) {
+            check.due("byte " + i, log.byteAt(1, i, 1), log.byteAt(0, i, 0));
+        }
     }
 }

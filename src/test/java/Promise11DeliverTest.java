@@ -8,6 +8,9 @@ public final class Promise11DeliverTest {
         answerFindsSixteen(check);
         manyMessages(check);
         overWhatWasTorn(check);
+        positionsNeedNoRoom(check);
+        fifteenAnswersLeaveRoom(check);
+        onceMoreToAFullLog(check);
         check.end();
     }
 
@@ -147,5 +150,44 @@ public final class Promise11DeliverTest {
         check.due("kind on the disk", torn.byteAt(0, 16, 1), 3);
         torn.crash(0, 0);
         check.due("good", torn.up(0), 32);
+    }
+
+    /** Only an answer needs room: a position is delivered though the other way has 16 messages. */
+    private static void positionsNeedNoRoom(Check check) {
+        ShippedLog log = Check.pair();
+        log.send(0, 1);
+        log.deliver(0, 1);
+        for (int i = 0; i < 16; i++) {
+            log.send(0, 1);
+        }
+        check.due("messages the other way", log.link(0, 1, 1), 16);
+        check.due("a position", log.deliver(1, 0), 16);
+        check.due("messages the other way", log.link(0, 1, 1), 16);
+    }
+
+    private static void fifteenAnswersLeaveRoom(Check check) {
+        ShippedLog log = Check.noRoomForAnswer();
+        check.unsupported("16 answers", () -> log.deliver(0, 1));
+        check.due("one is told", log.deliver(1, 0), 16);
+        check.due("15 answers", log.deliver(0, 1), 16);
+        check.due("16 again", log.link(1, 0, 1), 16);
+        check.due("none on the way to it", log.link(0, 1, 1), 0);
+    }
+
+    /** A message that comes once more, when the replica's log is full. */
+    private static void onceMoreToAFullLog(Check check) {
+        ShippedLog log = Check.pair();
+        Check.fill(log, 0);
+        for (int i = 0; i < 63; i++) {
+            log.send(0, 1);
+            log.deliver(0, 1);
+            log.deliver(1, 0);
+        }
+        check.due("the last four", log.send(0, 1), 4);
+        check.due("once more", log.send(0, 1), 4);
+        check.due("full", log.deliver(0, 1), 4096);
+        check.due("nothing is written", log.deliver(0, 1), 4096);
+        check.due("told", log.deliver(1, 0), 4096);
+        check.due("told again", log.deliver(1, 0), 4096);
     }
 }

@@ -10,6 +10,7 @@ public final class Promise12DropTest {
         check.nothingThere("from a node to itself", () -> log.drop(0, 0));
         theOldestIsLost(check);
         answersAreLost(check);
+        fromSixteenToNone(check);
         check.end();
     }
 
@@ -41,5 +42,23 @@ public final class Promise12DropTest {
         check.due("nothing is written twice", log.deliver(0, 1), 32);
         check.due("told", log.deliver(1, 0), 32);
         check.due("acknowledged then", log.node(0, 6), 32);
+    }
+
+    private static void fromSixteenToNone(Check check) {
+        ShippedLog log = Check.sixteenSent();
+        check.unsupported("full", () -> log.send(0, 1));
+        for (int left = 15; left >= 0; left--) {
+            check.due("how many there are then", log.drop(0, 1), left);
+            check.due("messages", log.link(0, 1, 1), left);
+        }
+        check.nothingThere("none is left", () -> log.drop(0, 1));
+        check.due("room again", log.send(0, 1), 1);
+
+        ShippedLog answers = Check.sixteenAnswers();
+        for (int left = 15; left >= 0; left--) {
+            check.due("answers there are then", answers.drop(1, 0), left);
+        }
+        check.nothingThere("no answer is left", () -> answers.drop(1, 0));
+        check.due("nothing was told", answers.link(0, 1, 0), 0);
     }
 }

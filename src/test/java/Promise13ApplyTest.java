@@ -4,6 +4,9 @@ public final class Promise13ApplyTest {
         refusals(check);
         recordByRecord(check);
         manyAtOnce(check);
+        aroundWhatThereIs(check);
+        fullLog(check);
+        emptyLog(check);
         check.end();
     }
 
@@ -58,5 +61,38 @@ public final class Promise13ApplyTest {
         log.crash(0, 0);
         check.due("an idle node keeps what it applied", log.node(1, 3), 208);
         check.due("and answers from it", log.get(1, 5), 6);
+    }
+
+    /** Of three records: one less than there are, just as many, one more, none. */
+    private static void aroundWhatThereIs(Check check) {
+        for (int n = 1; n <= 4; n++) {
+            ShippedLog log = Check.pair();
+            log.put(0, 1, 1);
+            log.commit(0);
+            Check.ship(log, 0, 1);
+            check.due("apply(1, " + n + ")", log.apply(1, n), Math.min(n, 3));
+            check.due("applied", log.node(1, 3), 16 * Math.min(n, 3));
+            check.due("the rest", log.apply(1, 9), 3 - Math.min(n, 3));
+            check.due("none", log.apply(1, Integer.MAX_VALUE), 0);
+        }
+    }
+
+    private static void fullLog(Check check) {
+        ShippedLog log = Check.fullPair();
+        check.due("all but one", log.apply(1, 255), 255);
+        check.due("the last one", log.apply(1, 255), 1);
+        check.due("none", log.apply(1, 1), 0);
+        check.due("applied", log.node(1, 3), 4096);
+        check.due("put and not committed", log.node(1, 8), 255);
+    }
+
+    private static void emptyLog(Check check) {
+        ShippedLog log = Check.pair();
+        check.due("nothing there", log.apply(1, 1), 0);
+        check.due("applied", log.node(1, 3), 0);
+        log.send(0, 1);
+        check.due("sent, not delivered", log.apply(1, 1), 0);
+        log.deliver(0, 1);
+        check.due("delivered", log.apply(1, 1), 1);
     }
 }

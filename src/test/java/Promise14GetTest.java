@@ -5,6 +5,8 @@ public final class Promise14GetTest {
         committedValues(check);
         acrossCrashes(check);
         onlyTheRecordsKey(check);
+        upToWhatIsApplied(check);
+        fullLog(check);
         check.end();
     }
 
@@ -60,6 +62,31 @@ public final class Promise14GetTest {
         log.commit(0);
         for (int key = 0; key < 16; key++) {
             check.due("key " + key, log.get(0, key), 100 + key);
+        }
+    }
+
+    /** The state ends at the applied position, also when the log goes on. */
+    private static void upToWhatIsApplied(Check check) {
+        ShippedLog log = Check.pair();
+        log.put(0, 15, 1);
+        log.commit(0);
+        Check.ship(log, 0, 1);
+        log.apply(1, 2);
+        check.due("the put alone", log.get(1, 15), 0);
+        log.apply(1, 1);
+        check.due("the commit too", log.get(1, 15), 1);
+    }
+
+    /** Committed by the 256th record. */
+    private static void fullLog(Check check) {
+        ShippedLog log = Check.primary();
+        for (int i = 0; i < 254; i++) {
+            log.put(0, i % 16, i);
+        }
+        check.due("before", log.get(0, 13), 0);
+        log.commit(0);
+        for (int key = 0; key < 16; key++) {
+            check.due("key " + key, log.get(0, key), key < 14 ? 240 + key : 224 + key);
         }
     }
 }

@@ -7,6 +7,8 @@ public final class Promise15ByteAtTest {
         refusals(check);
         records(check);
         downOrNot(check);
+        firstAndLast(check);
+        unsigned(check);
         check.end();
     }
 
@@ -55,5 +57,31 @@ public final class Promise15ByteAtTest {
         check.due("on its disk", log.byteAt(0, 23, 1), 255);
         check.due("what did not come to the disk", log.byteAt(0, 27, 1), 0);
         check.due("never up", new ShippedLog().byteAt(0, 0, 1), 0);
+    }
+
+    /** The first and the last byte of a full log, in memory and on the disk. */
+    private static void firstAndLast(Check check) {
+        ShippedLog log = Check.fullPrimary();
+        check.due("the first byte in memory", log.byteAt(0, 0, 0), 3);
+        check.due("the first byte on the disk", log.byteAt(0, 0, 1), 3);
+        record(check, log, 4080, 1, 254 % 16, 255);
+        check.due("not on the disk yet", log.byteAt(0, 4095, 1), 0);
+        int last = log.byteAt(0, 4095, 0);
+        log.crash(0, 4079);
+        check.due("all but the last byte", log.byteAt(0, 4095, 1), 0);
+        check.due("the last byte but one", log.byteAt(0, 4094, 1), log.byteAt(0, 4094, 0));
+        check.due("the last byte in memory", log.byteAt(0, 4095, 0), last);
+    }
+
+    /** Bytes are 0 to 255: none is below 0. */
+    private static void unsigned(Check check) {
+        ShippedLog log = Check.primary();
+        log.put(0, 1, 0x80FF7F00);
+        log.commit(0);
+        int[] due = {128, 255, 127, 0};
+        for (int i = 0; i < 4; i++) {
+            check.due("byte " + i + " of the value in memory", log.byteAt(0, 20 + i, 0), due[i]);
+            check.due("byte " + i + " of the value on the disk", log.byteAt(0, 20 + i, 1), due[i]);
+        }
     }
 }

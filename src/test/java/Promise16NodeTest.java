@@ -5,6 +5,9 @@ public final class Promise16NodeTest {
         primaryAndReplica(check);
         idleThatWasReplica(check);
         pending(check);
+        downTellsNothing(check);
+        fullLog(check);
+        pendingBeginsAnew(check);
         check.end();
     }
 
@@ -58,5 +61,42 @@ public final class Promise16NodeTest {
         }
         log.commit(0);
         check.due("pending after a commit", log.node(0, 8), 0);
+    }
+
+    /** What a node that is down tells, whatever it was before. */
+    private static void downTellsNothing(Check check) {
+        for (int node = 0; node < 3; node++) {
+            ShippedLog log = Check.pair();
+            log.put(0, 1, 1);
+            log.commit(0);
+            log.put(0, 1, 2);
+            Check.ship(log, 0, 1);
+            log.apply(1, 4);
+            log.standby(0, 1);
+            log.crash(node, 16);
+            facts(check, log, node, 0, 0, 0, 0, 0, -1, 0, -1, 0);
+        }
+    }
+
+    private static void fullLog(Check check) {
+        ShippedLog log = Check.fullPair();
+        facts(check, log, 0, 2, 4096, 16, 4096, 1, -1, 0, -1, 255);
+        facts(check, log, 1, 3, 4096, 4096, 0, 1, 0, 0, -1, 0);
+    }
+
+    /** What is put counts from the last record of kind 2 or 3 on. */
+    private static void pendingBeginsAnew(Check check) {
+        ShippedLog log = Check.primary();
+        check.due("behind kind 3", log.node(0, 8), 0);
+        log.put(0, 1, 1);
+        check.due("one put", log.node(0, 8), 1);
+        log.commit(0);
+        check.due("behind kind 2", log.node(0, 8), 0);
+        log.put(0, 1, 1);
+        log.crash(0, 16);
+        log.up(0);
+        check.due("of an idle node", log.node(0, 8), 1);
+        log.promote(0);
+        check.due("behind kind 3 again", log.node(0, 8), 0);
     }
 }

@@ -4,6 +4,9 @@ public final class Promise17LinkTest {
         refusals(check);
         known(check);
         messages(check);
+        upToSixteen(check);
+        toldLast(check);
+        fullLog(check);
         check.end();
     }
 
@@ -53,5 +56,40 @@ public final class Promise17LinkTest {
         check.due("from a node to itself", log.link(0, 0, 1), 0);
         log.crash(3, 0);
         check.due("of a node that is down", log.link(3, 0, 1), 0);
+    }
+
+    private static void upToSixteen(Check check) {
+        ShippedLog log = Check.pair();
+        for (int i = 1; i <= 16; i++) {
+            log.send(0, 1);
+            check.due("messages", log.link(0, 1, 1), i);
+        }
+        for (int i = 1; i <= 16; i++) {
+            log.deliver(0, 1);
+            check.due("messages left", log.link(0, 1, 1), 16 - i);
+            check.due("answers", log.link(1, 0, 1), i);
+        }
+    }
+
+    /** What is known is the position told last, not the greatest. */
+    private static void toldLast(Check check) {
+        ShippedLog log = Check.pair();
+        log.send(0, 1);
+        log.deliver(0, 1);
+        log.put(0, 1, 1);
+        log.follow(1, 0);
+        log.send(0, 1);
+        log.deliver(0, 1);
+        log.follow(1, 0);
+        check.due("its end when it began to follow anew", log.link(0, 1, 0), 32);
+        check.due("an older one is told", log.deliver(1, 0), 16);
+        check.due("it is known", log.link(0, 1, 0), 16);
+        check.due("the next one is told", log.deliver(1, 0), 32);
+        check.due("it is known", log.link(0, 1, 0), 32);
+    }
+
+    private static void fullLog(Check check) {
+        ShippedLog log = Check.fullPair();
+        check.due("the greatest position", log.link(0, 1, 0), 4096);
     }
 }
