@@ -155,11 +155,14 @@ final class Check {
         return log;
     }
 
-    /** 16 answers and one message, whose answer finds no room. */
+    /** 16 answers are on their way, and a message that would be written, but whose answer finds no room. */
     static ShippedLog noRoomForAnswer() {
         ShippedLog log = sixteenAnswers();
+        log.send(0, 1);
+        log.deliver(1, 0);
         log.put(0, 1, 1);
         log.send(0, 1);
+        log.deliver(0, 1);
         return log;
     }
 

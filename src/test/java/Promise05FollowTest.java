@@ -9,6 +9,7 @@ public final class Promise05FollowTest {
         emptyLogs(check);
         lastRecord(check);
         fullLogs(check);
+        appliesNothing(check);
         check.end();
     }
 
@@ -121,5 +122,24 @@ public final class Promise05FollowTest {
         check.due("up", log.up(1), 4096);
         log.follow(1, 0);
         check.due("a full log is a beginning of the same", log.link(0, 1, 0), 4096);
+    }
+
+    /** What was applied stays when a node follows, be it less than its end. */
+    private static void appliesNothing(Check check) {
+        ShippedLog log = Check.pair();
+        log.put(0, 1, 5);
+        log.commit(0);
+        Check.ship(log, 0, 1);
+        log.apply(1, 1);
+        log.follow(1, 0);
+        check.due("of a replica that follows anew", log.node(1, 3), 16);
+        log.crash(0, 0);
+        log.up(0);
+        log.promote(0);
+        log.follow(1, 0);
+        check.due("of an idle node", log.node(1, 3), 16);
+        check.due("its value", log.get(1, 1), 0);
+        check.due("the rest", log.apply(1, 9), 2);
+        check.due("its value then", log.get(1, 1), 5);
     }
 }

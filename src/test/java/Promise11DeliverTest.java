@@ -169,7 +169,7 @@ public final class Promise11DeliverTest {
         ShippedLog log = Check.noRoomForAnswer();
         check.unsupported("16 answers", () -> log.deliver(0, 1));
         check.due("one is told", log.deliver(1, 0), 16);
-        check.due("15 answers", log.deliver(0, 1), 16);
+        check.due("15 answers", log.deliver(0, 1), 32);
         check.due("16 again", log.link(1, 0, 1), 16);
         check.due("none on the way to it", log.link(0, 1, 1), 0);
     }
