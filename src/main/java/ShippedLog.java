@@ -1,4 +1,3 @@
-import java.util.Arrays;
 import java.util.NoSuchElementException;
 
 /** Four nodes with logs of records; a primary ships its log to its replicas. See README.md. */
@@ -459,12 +458,12 @@ public final class ShippedLog {
         /** Of what is not synced, the first bytes come to the disk: how many. */
         int saveFirst(int limit) {
             int saved = Math.min(limit, end - synced);
-            System.arraycopy(memory, synced, disk, synced, saved);
+            copy(memory, disk, synced, saved);
             return saved;
         }
 
         void loadFromDisk() {
-            System.arraycopy(disk, 0, memory, 0, LOG_BYTES);
+            copy(disk, memory, 0, LOG_BYTES);
             end = 0;
             while (end < LOG_BYTES && hasGoodRecord(end, lastTimeline())) {
                 end += RECORD_BYTES;
@@ -480,7 +479,7 @@ public final class ShippedLog {
             if (position != end || bytes < 0 || bytes > LOG_BYTES - end) {
                 return;
             }
-            System.arraycopy(sender.memory, position, memory, end, bytes);
+            copy(sender.memory, memory, end, bytes);
             end += bytes;
             sync();
         }
@@ -506,8 +505,17 @@ public final class ShippedLog {
             }
             end = newEnd;
             synced = newEnd;
-            Arrays.fill(memory, newEnd, LOG_BYTES, (byte) 0);
-            System.arraycopy(memory, 0, disk, 0, LOG_BYTES);
+            for (int i = newEnd; i < LOG_BYTES; i++) {
+                setByte(i, 0);
+            }
+            copy(memory, disk, 0, LOG_BYTES);
+        }
+
+        /** What is copied stands at the same place in both. */
+        private static void copy(byte[] from, byte[] to, int place, int count) {
+            if (place >= 0 && count > 0 && place <= LOG_BYTES - count) {
+                System.arraycopy(from, place, to, place, count);
+            }
         }
 
         private boolean hasRecordOf(Log other, int place) {
@@ -636,23 +644,23 @@ public final class ShippedLog {
             if (isFull()) {
                 return;
             }
-            int newest = (oldest + count) % WAY_MESSAGES;
+            int newest = slot(count);
             positions[newest] = position;
             bytes[newest] = recordBytes;
             count++;
         }
 
         int oldestPosition() {
-            return positions[oldest];
+            return positions[slot(0)];
         }
 
         int oldestBytes() {
-            return bytes[oldest];
+            return bytes[slot(0)];
         }
 
         void removeOldest() {
             if (count > 0) {
-                oldest = (oldest + 1) % WAY_MESSAGES;
+                oldest = slot(1);
                 count--;
             }
         }
@@ -660,6 +668,11 @@ public final class ShippedLog {
         void clear() {
             oldest = 0;
             count = 0;
+        }
+
+        /** Where a message stands that has so many older ones before it. */
+        private int slot(int older) {
+            return Math.floorMod(oldest + older, WAY_MESSAGES);
         }
     }
 }
